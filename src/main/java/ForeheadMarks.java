@@ -1457,7 +1457,7 @@ public final class ForeheadMarks {
         private final Cells possible = new Cells(MAX_ROWS);
         private int marks;
         final Cells sees = new Cells(MAX_GUESTS);
-        /** The bits of the FACTS that hold in a ROW. */
+        /** The bits of the FACTS that hold, for each of ALL ROWS; no other ROW is ever LEFT. */
         final Cells truths = new Cells(MAX_ROWS);
         final Cells all = new Cells(MAX_ROWS);
         int guests;
@@ -1480,8 +1480,8 @@ public final class ForeheadMarks {
             for (int row = 0; row < count; row++) {
                 fillViews(row);
                 sheet.fillFromRow(row, marks, guests);
-                truths.put(row, parlour.truthBits(sheet));
                 if (parlour.rulesHold(sheet)) {
+                    truths.put(row, parlour.truthBits(sheet));
                     allowed.put(row, 1);
                     all.put(allCount, row);
                     allCount++;

@@ -240,6 +240,7 @@ public final class PromisesTest {
             due("11 wears", x.wears(row, g), want[g]);
         }
         due("11 last", x.wears(1023, 4), 3);
+        due("11 first", x.wears(0, 4), 0);
         due("11 row", x.wears(1024, 4), NONE);
         due("11 row", x.wears(-1, 4), NONE);
         due("11 guest", x.wears(0, 5), NONE);
@@ -313,6 +314,27 @@ public final class PromisesTest {
         ForeheadMarks u = TestKit.with("marks 3;guest a wears 0;guest b wears 0;guest c wears 0;blind c to a;blind c to b;"
             + "rule c=0;rule a=0 and b=0 or a=1 and b>0;");
         due("14 one deep", u.deep(), 1);
+        deepSteps();
+    }
+
+    /**
+     * d is c or c + 1, e tells which: all know their marks, but where c = d = 3 and e may be 2, too. a sees c alone, b sees d
+     * alone, so that they mix up rows that are side by side on the way from 0 0 to 3 3.
+     */
+    private static void deepSteps() {
+        for (int step = 0; step <= 6; step++) {
+            int c = step / 2;
+            int d = (step + 1) / 2;
+            ForeheadMarks x = TestKit.with("marks 4;guest a wears 0;guest b wears 0;guest c wears " + c + ";guest d wears " + d
+                + ";guest e wears " + (d - c) + ";blind a to b;blind a to d;blind a to e;blind b to a;blind b to c;blind b to e;"
+                + "rule a=0 and b=0;rule e=d-c and [e=0 or e=1] or c=3 and d=3 and e=2;fact e<2;");
+            due("14 rows", x.has(6), 8);
+            due("14 step " + step, x.deep(), 6 - step);
+            due("14 again " + step, x.deep(), 6 - step);
+            due("14 nothing is spoilt", x.has(7), step == 6 ? 4 : 5);
+            x.tell(0);
+            due("14 told " + step, x.deep(), 9);
+        }
     }
 
     private static void p15Later() {
@@ -719,12 +741,12 @@ public final class PromisesTest {
         ForeheadMarks x = TestKit.with(THREE);
         x.round();
         String[] texts = {"first mark=0", "last knows=1", "first mark>1", "last mark>1", "often mark=1", "total number",
-            "most number*number", "least rows", "most rows", "total round", "total sees 0", "total sees 2", "total sees 3",
+            "most number*number", "least rows", "most rows", "total round", "total sees 0", "total sees 2", "total sees 3", "total sees 5", "total sees 9999",
             "total could 0", "total could 1", "total could 2", "first sees (0-1)=1", "total 9999*9999", "least 0-9999*9999",
             "total (0-7)/2", "total 7/0", "most min(number,1)+max(number,1)", "often not knows=1 or number=0 and mark=0",
             "often [not knows=1 or number=0] and mark=0", "total 1-1-1", "total 8/2*2", "total 2+3*4", "often all",
             "often 9999*9999=9999*101", "often 0-9999*9999<0-9999*100", "total 9999*100+9999"};
-        long[] want = {2, 1, NONE, NONE, 2, 3, 4, 1, 2, 3, 2, 2, 0, 1, 3, 0, NONE, 3000000, -1000000,
+        long[] want = {2, 1, NONE, NONE, 2, 3, 4, 1, 2, 3, 2, 2, 0, 0, 0, 1, 3, 0, NONE, 3000000, -1000000,
             -12, 0, 3, 1, 1, -3, 24, 42, 3, 3, 3, 3000000};
         for (int k = 0; k < texts.length; k++) {
             due("35 " + texts[k], TestKit.ask(x, texts[k]), want[k]);
@@ -758,7 +780,12 @@ public final class PromisesTest {
         ForeheadMarks y = TestKit.with(TWO);
         y.image();
         dueImage(y, new int[] {0, 0, 1, 2, 0xFF, 1, 0});
-        due("36 greatest", TestKit.with("marks 4;guest a wears 0;guest b wears 0;guest c wears 0;guest d wears 0;guest e wears 0;").image(), 136);
+        ForeheadMarks z = TestKit.with("marks 4;guest a wears 3;guest b wears 2;guest c wears 1;guest d wears 0;guest e wears 3;rule e>0;");
+        due("36 greatest", z.image(), 136);
+        int[] great = new int[136];
+        System.arraycopy(new int[] {0, 0, 3, 2, 1, 0, 3}, 0, great, 0, 7);
+        java.util.Arrays.fill(great, 7 + 32, 135, 255);
+        dueImage(z, great);
     }
 
     private static void dueImage(ForeheadMarks x, int[] want) {
