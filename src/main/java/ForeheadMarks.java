@@ -704,7 +704,7 @@ public final class ForeheadMarks {
         }
     }
 
-    /** Cuts a text into words, numbers and signs, and holds the first FAULT along it. */
+    /** Cuts a text into pieces (words, numbers, signs), goes along them, and holds the first FAULT. */
     private static final class Reader {
         static final int END = 0;
         static final int WORD = 1;
@@ -713,104 +713,81 @@ public final class ForeheadMarks {
         /** A piece that is asked for nowhere, so that whoever meets it finds a FAULT there. */
         static final int STRAY = 4;
 
-        private Cells text = new Cells(0);
+        /** Of each piece five cells: where it begins, where it ends, its kind, its value, the number of its word. */
+        private static final int WIDTH = 5;
+
+        private final Cells pieces = new Cells(WIDTH * MAX_TAPE);
+        private int pieceCount;
+        private int next;
         private int length;
         private int kind;
         private int to;
+        /** Of a word its letters, packed; of a number what it is; of a sign its byte. */
+        private int value;
         private int word;
-        private int sign;
         /** Where the piece begins. */
         int from;
-        /** The letters of a word of up to six, five bits each; 0 for a longer one. */
-        int packed;
         int fault;
         int place;
 
-        void open(Cells newText, int newLength) {
-            text = newText;
+        /** All pieces are cut at once, so that the calls that go along them stay few. */
+        void open(Cells text, int newLength) {
             length = newLength;
             fault = 0;
             place = NONE;
-            kind = SIGN;
-            to = 0;
+            pieceCount = 0;
+            next = 0;
+            int at = 0;
+            for (int n = 0; n < MAX_TAPE && at < length; n++) {
+                boolean blank = text.get(at) == 10 || text.get(at) == 32;
+                at = blank ? at + 1 : cutPiece(text, at);
+            }
             advance();
         }
 
-        /** Behind a FAULT nothing is read any more, so that the first one stays. */
-        void fail(int code, int at) {
-            if (fault == 0) {
-                fault = code;
-                place = at;
-                kind = STRAY;
+        /** Notes the piece that begins there, and answers where it ends. */
+        private int cutPiece(Cells text, int at) {
+            int sort = sortOf(text.get(at));
+            int end = at + 1;
+            while (end < length && sort != SIGN && sortOf(text.get(end)) == sort) {
+                end++;
             }
+            int base = WIDTH * pieceCount;
+            boolean joined = pieces.get(base - WIDTH + 1) == at && pieces.get(base - WIDTH + 2) != SIGN;
+            boolean stray = pieceCount > 0 && joined && sort != SIGN;
+            int letters = sort == WORD ? packLetters(text, at, end) : 0;
+            pieces.put(base, at);
+            pieces.put(base + 1, end);
+            pieces.put(base + 2, stray ? STRAY : sort);
+            pieces.put(base + 3, sort == WORD ? letters : sort == NUMBER ? numberOf(text, at, end) : text.get(at));
+            pieces.put(base + 4, sort == WORD ? wordNumber(letters) : NO_WORD);
+            pieceCount++;
+            return end;
         }
 
-        void failHere() {
-            fail(FAULT_TEXT, from);
+        private static int sortOf(int c) {
+            if (c >= 'a' && c <= 'z') {
+                return WORD;
+            }
+            return c >= '0' && c <= '9' ? NUMBER : SIGN;
         }
 
-        void advance() {
-            if (fault != 0) {
-                return;
+        /** The letters of a word of up to six, five bits each; 0 for a longer one. */
+        private static int packLetters(Cells text, int start, int end) {
+            int packed = 0;
+            for (int k = start; k < end && end - start <= MAX_NAME; k++) {
+                packed |= (text.get(k) - 'a' + 1) << (5 * (k - start));
             }
-            int behind = to;
-            boolean joins = kind == WORD || kind == NUMBER;
-            from = skipBlanks(to);
-            cutPiece();
-            if (joins && from == behind && (kind == WORD || kind == NUMBER)) {
-                kind = STRAY;
-            }
+            return packed;
         }
 
-        private void cutPiece() {
-            word = NO_WORD;
-            packed = 0;
-            sign = 0;
-            to = Math.min(from + 1, length);
-            if (from >= length) {
-                kind = END;
-            } else if (isLetter(from)) {
-                cutWord();
-            } else if (isDigit(from)) {
-                cutNumber();
-            } else {
-                kind = SIGN;
-                sign = text.get(from);
+        /** Of more digits than a number may have the first ones alone. */
+        private static int numberOf(Cells text, int start, int end) {
+            int number = 0;
+            for (int k = start; k < end && k - start < MAX_DIGITS; k++) {
+                number = number * 10 + text.get(k) - '0';
             }
-        }
-
-        private void cutWord() {
-            kind = WORD;
-            while (to < length && isLetter(to)) {
-                to++;
-            }
-            for (int k = from; k < to && to - from <= MAX_NAME; k++) {
-                packed |= (text.get(k) - 'a' + 1) << (5 * (k - from));
-            }
-            word = wordNumber(packed);
-        }
-
-        private void cutNumber() {
-            kind = NUMBER;
-            while (to < length && isDigit(to)) {
-                to++;
-            }
-        }
-
-        private int skipBlanks(int start) {
-            int at = start;
-            while (at < length && (text.get(at) == 10 || text.get(at) == 32)) {
-                at++;
-            }
-            return at;
-        }
-
-        private boolean isLetter(int at) {
-            return text.get(at) >= 'a' && text.get(at) <= 'z';
-        }
-
-        private boolean isDigit(int at) {
-            return text.get(at) >= '0' && text.get(at) <= '9';
+            return number;
         }
 
         private static int wordNumber(int packed) {
@@ -834,6 +811,38 @@ public final class ForeheadMarks {
             return NO_WORD;
         }
 
+        /** Behind a FAULT nothing is read any more, so that the first one stays. */
+        void fail(int code, int at) {
+            if (fault == 0) {
+                fault = code;
+                place = at;
+                kind = STRAY;
+            }
+        }
+
+        void failHere() {
+            fail(FAULT_TEXT, from);
+        }
+
+        void advance() {
+            if (fault != 0) {
+                return;
+            }
+            if (next >= pieceCount) {
+                kind = END;
+                from = length;
+                to = length;
+                return;
+            }
+            int base = WIDTH * next;
+            from = pieces.get(base);
+            to = pieces.get(base + 1);
+            kind = pieces.get(base + 2);
+            value = pieces.get(base + 3);
+            word = pieces.get(base + 4);
+            next++;
+        }
+
         boolean isEnd() {
             return kind == END;
         }
@@ -842,21 +851,22 @@ public final class ForeheadMarks {
             return kind == WORD && word == number;
         }
 
-        boolean isAnyWord() {
-            return kind == WORD;
-        }
-
         boolean isNumber() {
             return kind == NUMBER;
         }
 
         boolean isSign(char c) {
-            return kind == SIGN && sign == c;
+            return kind == SIGN && value == c;
         }
 
         /** The number of the word that stands here; NO_WORD for other words and pieces. */
         int wordHere() {
             return kind == WORD ? word : NO_WORD;
+        }
+
+        /** The letters of the word that stands here, packed; 0, which is no NAME, for over six and for other pieces. */
+        int lettersHere() {
+            return kind == WORD ? value : 0;
         }
 
         void takeWord(int number) {
@@ -881,10 +891,7 @@ public final class ForeheadMarks {
             if (to - from > MAX_DIGITS) {
                 fail(FAULT_TEXT, from + MAX_DIGITS);
             }
-            int number = 0;
-            for (int k = from; k < to && fault == 0; k++) {
-                number = number * 10 + text.get(k) - '0';
-            }
+            int number = value;
             advance();
             return number;
         }
@@ -907,7 +914,7 @@ public final class ForeheadMarks {
             if (to - from > MAX_NAME) {
                 fail(FAULT_TEXT, from + MAX_NAME);
             }
-            int name = packed;
+            int name = value;
             advance();
             return name;
         }
@@ -938,11 +945,6 @@ public final class ForeheadMarks {
             this.code = code;
         }
 
-        void readTest(Code into, Parlour parlour) {
-            begin(into, parlour, false);
-            test();
-        }
-
         /** The word by which the QUESTION begins. */
         int readQuestion(Code into, Parlour parlour) {
             begin(into, parlour, true);
@@ -962,14 +964,15 @@ public final class ForeheadMarks {
             return word;
         }
 
-        private void begin(Code into, Parlour parlour, boolean isQuestion) {
+        /** To be called ahead of each TEST or SUM. */
+        void begin(Code into, Parlour parlour, boolean isQuestion) {
             code = into;
             names = parlour;
             asking = isQuestion;
             open = 0;
         }
 
-        private void test() {
+        void test() {
             both();
             for (int n = 0; n < MAX_TAPE && reader.isWord(W_OR); n++) {
                 reader.advance();
@@ -1005,8 +1008,25 @@ public final class ForeheadMarks {
                 code.add(OP_PUSH, 1);
                 reader.advance();
             } else {
-                comparison();
+                sum();
+                int op = signHere();
+                reader.advance();
+                sum();
+                code.add(op, 0);
             }
+        }
+
+        private int signHere() {
+            if (reader.isSign('<')) {
+                return OP_LESS;
+            }
+            if (reader.isSign('>')) {
+                return OP_MORE;
+            }
+            if (!reader.isSign('=')) {
+                reader.failHere();
+            }
+            return OP_SAME;
         }
 
         private boolean goDeeper() {
@@ -1017,22 +1037,6 @@ public final class ForeheadMarks {
             open++;
             reader.advance();
             return true;
-        }
-
-        private void comparison() {
-            sum();
-            int op = OP_SAME;
-            if (reader.isSign('<')) {
-                op = OP_LESS;
-            } else if (reader.isSign('>')) {
-                op = OP_MORE;
-            } else if (!reader.isSign('=')) {
-                reader.failHere();
-                return;
-            }
-            reader.advance();
-            sum();
-            code.add(op, 0);
         }
 
         private void sum() {
@@ -1109,24 +1113,21 @@ public final class ForeheadMarks {
         }
 
         private void leaf() {
-            int at = leafHere();
+            int word = reader.wordHere();
+            int at = NONE;
+            if (asking) {
+                at = word >= W_NUMBER && word <= W_ROUND ? LEAF_WORDS + word : NONE;
+            } else if (word >= W_SUM && word <= W_KINDS) {
+                at = LEAF_WORDS + word;
+            } else if (names != null) {
+                at = names.guestNamed(reader.lettersHere());
+            }
             if (at == NONE) {
                 reader.failHere();
-            } else {
-                code.add(OP_LEAF, at);
-                reader.advance();
+                return;
             }
-        }
-
-        private int leafHere() {
-            int word = reader.wordHere();
-            if (asking) {
-                return word >= W_NUMBER && word <= W_ROUND ? LEAF_WORDS + word : NONE;
-            }
-            if (word >= W_SUM && word <= W_KINDS) {
-                return LEAF_WORDS + word;
-            }
-            return reader.isAnyWord() && names != null ? names.guestNamed(reader.packed) : NONE;
+            code.add(OP_LEAF, at);
+            reader.advance();
         }
     }
 
@@ -1323,22 +1324,10 @@ public final class ForeheadMarks {
         }
 
         private void readStatement() {
-            if (statements == MAX_STATEMENTS) {
-                reader.fail(FAULT_MANY, reader.from);
-            }
-            int word = reader.wordHere();
-            if ((statements == 0) != (word == W_MARKS)) {
-                reader.failHere();
-            }
-            readStatementOf(word);
-            reader.takeSign(';');
-            statements++;
-        }
-
-        private void readStatementOf(int word) {
+            int word = statementWord();
+            reader.advance();
             switch (word) {
                 case W_MARKS:
-                    reader.advance();
                     marks = reader.takeNumberWithin(2, 4);
                     break;
                 case W_GUEST:
@@ -1347,28 +1336,49 @@ public final class ForeheadMarks {
                 case W_BLIND:
                     readBlind();
                     break;
-                case W_RULE:
-                    rules = readTest(ruleSteps, rules, MAX_RULES);
-                    break;
-                case W_FACT:
-                    facts = readTest(factSteps, facts, MAX_FACTS);
-                    break;
                 case W_SLIP:
-                    reader.advance();
                     slip = reader.takeNumberWithin(0, MAX_SLIP);
                     break;
                 default:
-                    reader.failHere();
+                    int start = code.size;
+                    grammar.begin(code, this, false);
+                    grammar.test();
+                    noteTest(word, start);
                     break;
+            }
+            reader.takeSign(';');
+            statements++;
+        }
+
+        /** The word by which a STATEMENT begins; a FAULT, if there is none or it may not stand here. */
+        private int statementWord() {
+            int word = reader.wordHere();
+            boolean full = word == W_GUEST && guests >= MAX_GUESTS || word == W_RULE && rules >= MAX_RULES
+                || word == W_FACT && facts >= MAX_FACTS || statements >= MAX_STATEMENTS;
+            if (full) {
+                reader.fail(FAULT_MANY, reader.from);
+            }
+            boolean first = word == W_MARKS;
+            boolean other = word == W_GUEST || word == W_BLIND || word == W_RULE || word == W_FACT || word == W_SLIP;
+            if (statements == 0 ? !first : !other) {
+                reader.failHere();
+            }
+            return word;
+        }
+
+        private void noteTest(int word, int start) {
+            if (word == W_RULE) {
+                ruleSteps.put(2 * rules, start);
+                ruleSteps.put(2 * rules + 1, code.size);
+                rules++;
+            } else {
+                factSteps.put(2 * facts, start);
+                factSteps.put(2 * facts + 1, code.size);
+                facts++;
             }
         }
 
         private void readGuest() {
-            if (guests >= MAX_GUESTS) {
-                reader.fail(FAULT_MANY, reader.from);
-                return;
-            }
-            reader.advance();
             int at = reader.from;
             int name = reader.takeName();
             if (guestNamed(name) != NONE) {
@@ -1383,7 +1393,6 @@ public final class ForeheadMarks {
         }
 
         private void readBlind() {
-            reader.advance();
             int at = reader.from;
             int first = guestNamed(reader.takeName());
             if (first == NONE) {
@@ -1397,19 +1406,6 @@ public final class ForeheadMarks {
                 return;
             }
             blind.put(first, blind.get(first) | 1 << second);
-        }
-
-        /** A RULE or a FACT: how many there are with it. */
-        private int readTest(Cells steps, int number, int most) {
-            if (number >= most) {
-                reader.fail(FAULT_MANY, reader.from);
-                return number;
-            }
-            reader.advance();
-            steps.put(2 * number, code.size);
-            grammar.readTest(code, this);
-            steps.put(2 * number + 1, code.size);
-            return number + 1;
         }
 
         /** The GUEST of that NAME; a word of over six letters comes as 0 and is none. */
