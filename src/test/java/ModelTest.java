@@ -11,7 +11,7 @@ public final class ModelTest {
 
     private final Random random;
     private final Maker maker;
-    private final Model model = new Model();
+    private Model model = new Model();
     private ForeheadMarks x = new ForeheadMarks();
     private String text = "";
 
@@ -47,8 +47,12 @@ public final class ModelTest {
         return maker.test(pieces, rowWords(), List.of("count"), looks);
     }
 
-    /** A parlour by which some of the rows fall away, small enough for the Model. */
+    /** A parlour by which some of the rows fall away, small enough for the Model; behind others on the same object. */
     private void makeParlour(int mostRows) {
+        Model before = model;
+        model = new Model();
+        model.seed = before.seed;
+        System.arraycopy(before.refused, 0, model.refused, 0, 6);
         do {
             model.marks = 2 + random.nextInt(3);
             model.guests = random.nextInt(12) == 0 ? 0 : 1 + random.nextInt(5);
@@ -65,10 +69,23 @@ public final class ModelTest {
             pieces.addAll(List.of("slip", "7", ";", "slip", "" + model.slip, ";"));
             statements += 2;
         }
-        text = maker.join(pieces);
-        if (text.length() > 1600) {
+        String made = maker.join(pieces);
+        if (made.length() > 1600) {
+            model = before;
             return;
         }
+        // cut short it has a FAULT, and all stays
+        TestKit.put(x, made.substring(0, random.nextInt(made.lastIndexOf(';'))).stripTrailing() + "?");
+        due("parlour() with a fault", x.parlour(), -1);
+        before.refused[1]++;
+        model.refused[1]++;
+        if (!text.isEmpty()) {
+            Model next = model;
+            model = before;
+            lookAtState();
+            model = next;
+        }
+        text = made;
         model.start(row);
         TestKit.put(x, text);
         due("parlour()", x.parlour(), statements);
@@ -324,11 +341,16 @@ public final class ModelTest {
     }
 
     private void run(int mostRows, boolean large) {
-        makeParlour(mostRows);
-        if (text.length() > 1600) {
-            return;
+        for (int k = 0; k < 3; k++) {
+            makeParlour(mostRows);
+            if (!text.isEmpty()) {
+                play(large);
+            }
         }
-        for (int step = 0; step < 60; step++) {
+    }
+
+    private void play(boolean large) {
+        for (int step = 0; step < 20; step++) {
             int acts = random.nextInt(4);
             for (int k = 0; k < acts; k++) {
                 act();
@@ -361,9 +383,7 @@ public final class ModelTest {
             int above = row[0] + 4 * row[3] - row[1] - 4 * row[2];
             return above == 0 || above == 1 || row[0] + 4 * row[3] > 13 && row[1] + 4 * row[2] > 13 ? 1 : 0;
         });
-        text = "marks 4;guest a wears " + q % 4 + ";guest b wears " + p % 4 + ";guest c wears " + p / 4 + ";guest d wears " + q / 4
-            + ";blind a to d;blind b to c;blind c to a;blind c to b;blind c to d;blind d to a;blind d to b;blind d to c;"
-            + "rule a+4*d=b+4*c or a+4*d=b+4*c+1 or a+4*d>13 and b+4*c>13;";
+        text = Texts.chain(p, q);
         model.start(new int[] {q % 4, p % 4, p / 4, q / 4});
         TestKit.put(x, text);
         due("parlour()", x.parlour(), 14);
@@ -401,7 +421,7 @@ public final class ModelTest {
     }
 
     public static void main(String[] args) {
-        int runs = args.length > 0 ? Integer.parseInt(args[0]) : 120;
+        int runs = args.length > 0 ? Integer.parseInt(args[0]) : 80;
         runsLong();
         for (int seed = 0; seed < runs && TestKit.wrongSoFar() < 20; seed++) {
             new ModelTest(seed).run(seed % 10 == 0 ? 81 : 27, false);

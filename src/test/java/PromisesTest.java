@@ -810,38 +810,14 @@ public final class PromisesTest {
         due("37 the latest image", x.octet(5), 0xE8);
     }
 
-    private static byte[] imageOf(ForeheadMarks x) {
-        byte[] b = new byte[x.image()];
-        for (int k = 0; k < b.length; k++) {
-            b[k] = (byte) x.octet(k);
-        }
-        return b;
-    }
-
-    private static byte[] sealed(int... ahead) {
-        byte[] b = new byte[ahead.length + 1];
-        int c = 197;
-        for (int k = 0; k < ahead.length; k++) {
-            b[k] = (byte) ahead[k];
-            c = (3 * c + ahead[k]) % 251;
-        }
-        b[ahead.length] = (byte) c;
-        return b;
-    }
-
-    private static boolean onWith(ForeheadMarks x, byte[] bytes) {
-        TestKit.put(x, bytes);
-        return x.on();
-    }
-
     private static void p38On() {
         ForeheadMarks x = TestKit.with(THREE);
         x.round();
-        byte[] image = imageOf(x);
+        byte[] image = Probe.imageOf(x);
         x.wear(0, 0);
         TestKit.put(x, 1, 0, 0);
         x.hear();
-        due("38 on", onWith(x, image), true);
+        due("38 on", Probe.onWith(x, image), true);
         due("38 the tape went", x.feed(0, 0, 0, 0, 0), 20);
         due("38 round", x.has(4), 1);
         due("38 left", x.has(5), 4);
@@ -851,28 +827,28 @@ public final class PromisesTest {
         due("38 nothing kept", x.has(8), 0);
         due("38 nothing undone", x.has(10), 0);
         due("38 heard stays", x.has(9), 1);
-        due("38 sealed", onWith(x, sealed(3, 231, 1, 1, 0, 8)), true);
+        due("38 sealed", Probe.onWith(x, Probe.sealed(3, 231, 1, 1, 0, 8)), true);
         due("38 round", x.has(4), 999);
         byte[][] bad = {
-            {}, sealed(), sealed(3, 232, 1, 1, 0, 8), sealed(0, 0, 2, 1, 0, 8), sealed(0, 0, 1, 1, 255, 8), sealed(0, 0, 1, 1, 0, 9),
-            sealed(0, 0, 1, 1, 0, 4), sealed(0, 0, 1, 1, 0, 0), sealed(0, 0, 0, 0, 0, 1), sealed(0, 0, 1, 1, 0, 8, 0),
-            sealed(0, 0, 1, 1, 8), {0, 0, 1, 1, 0, 8, 0}};
+            {}, Probe.sealed(), Probe.sealed(3, 232, 1, 1, 0, 8), Probe.sealed(0, 0, 2, 1, 0, 8), Probe.sealed(0, 0, 1, 1, 255, 8), Probe.sealed(0, 0, 1, 1, 0, 9),
+            Probe.sealed(0, 0, 1, 1, 0, 4), Probe.sealed(0, 0, 1, 1, 0, 0), Probe.sealed(0, 0, 0, 0, 0, 1), Probe.sealed(0, 0, 1, 1, 0, 8, 0),
+            Probe.sealed(0, 0, 1, 1, 8), {0, 0, 1, 1, 0, 8, 0}};
         for (int k = 0; k < bad.length; k++) {
-            due("38 none " + k, onWith(x, bad[k]), false);
+            due("38 none " + k, Probe.onWith(x, bad[k]), false);
         }
         due("38 refused", x.status(5), bad.length);
         due("38 all stays", x.has(4), 999);
         due("38 all stays", x.has(5), 1);
         due("38 the tape went", x.feed(0, 0, 0, 0, 0), 20);
         ForeheadMarks y = TestKit.with(TWO);
-        due("38 bits of no rows", onWith(y, sealed(0, 0, 1, 2, 255, 3)), false);
-        due("38 last row", onWith(y, sealed(0, 0, 2, 2, 0, 1)), true);
+        due("38 bits of no rows", Probe.onWith(y, Probe.sealed(0, 0, 1, 2, 255, 3)), false);
+        due("38 last row", Probe.onWith(y, Probe.sealed(0, 0, 2, 2, 0, 1)), true);
         due("38 worn", y.left(0), 8);
         ForeheadMarks z = new ForeheadMarks();
-        due("38 no parlour", onWith(z, sealed(0, 0)), false);
+        due("38 no parlour", Probe.onWith(z, Probe.sealed(0, 0)), false);
         due("38 no parlour", z.status(5), 1);
-        due("38 no guests", onWith(TestKit.with("marks 2;"), sealed(0, 7, 1)), true);
-        due("38 no guests, no row", onWith(TestKit.with("marks 2;"), sealed(0, 7, 0)), false);
+        due("38 no guests", Probe.onWith(TestKit.with("marks 2;"), Probe.sealed(0, 7, 1)), true);
+        due("38 no guests, no row", Probe.onWith(TestKit.with("marks 2;"), Probe.sealed(0, 7, 0)), false);
     }
 
     private static void p39Status() {

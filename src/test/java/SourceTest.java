@@ -74,6 +74,7 @@ public final class SourceTest {
         while (parameters.find()) {
             TestKit.due("parameters " + parameters.group(), parameters.group(1).split(",").length <= 7, true);
         }
+        methodLengths(text.split("\n"));
         TestKit.due("signs 1 to 127", text.chars().allMatch(c -> c > 0 && c < 128), true);
         // all objects are made with the one that holds them, so that calls make none
         Matcher made = Pattern.compile("(?m)^(.*)\\bnew\\b.*$").matcher(code);
@@ -82,6 +83,23 @@ public final class SourceTest {
             boolean field = ahead.startsWith("private ") || ahead.startsWith("final ") || ahead.equals("cell =");
             TestKit.due("made in a call: " + made.group(), field, true);
         }
+    }
+
+    private static void methodLengths(String[] lines) {
+        Pattern head = Pattern.compile("^(    |        )(?!return |else |switch |while |for |if )(?:[\\w\\[\\]]+ )*\\w+\\([^)]*\\) \\{$");
+        int methods = 0;
+        for (int k = 0; k < lines.length; k++) {
+            Matcher m = head.matcher(lines[k]);
+            if (m.find()) {
+                int end = k;
+                while (end + 1 < lines.length && !lines[end].equals(m.group(1) + "}")) {
+                    end++;
+                }
+                methods++;
+                TestKit.due("lines of " + lines[k], end - k < 60, true);
+            }
+        }
+        TestKit.due("methods", methods > 100, true);
     }
 
     private static final String[] TEXTS = {
