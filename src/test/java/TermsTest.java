@@ -564,6 +564,40 @@ public final class TermsTest {
         due("the last alone", TestKit.with("marks 2;guest a wears 0;" + "fact all;".repeat(7) + "fact a=1;").hints(0), 128);
     }
 
+    /** "A SECRET .. likewise, so that he KNOWS, and that one does not": the fewest that do both, more than HINTS at times. */
+    private static void secretOfMore() {
+        String head = "marks 4;guest a wears 0;guest b wears 0;blind a to b;blind b to a;";
+        ForeheadMarks x = TestKit.with(head + "fact a=0 and b=0;fact a<2;fact a=0 or a>1;fact a<2;");
+        due("one tells both", x.hints(0), 1);
+        due("two tell a alone", x.secret(0, 1), 2 + 4);
+        due("b learns by the first alone", x.hints(1), 1);
+        due("no secret of b", x.secret(1, 0), NONE);
+        x.tell(1);
+        due("one more", x.secret(0, 1), 4);
+        x.tell(2);
+        due("nothing more", x.secret(0, 1), 0);
+        x.tell(0);
+        due("b knows, too", x.secret(0, 1), NONE);
+        ForeheadMarks y = TestKit.with(head + "fact a=0;fact b=0;");
+        due("a", y.secret(0, 1), 1);
+        due("b", y.secret(1, 0), 2);
+    }
+
+    /** "a SPEAKER .. leaves fewest ROWS; of like ones the first". */
+    private static void likeSpeakers() {
+        // nobody ever knows: all leave all
+        ForeheadMarks x = TestKit.with("marks 2;guest a wears 0;guest b wears 0;guest c wears 1;");
+        due("speaker", x.speaker(0), 0);
+        due("left", x.speaker(1), 8);
+        // a, who is blind, tells nothing; b and c both leave two of four
+        ForeheadMarks y = TestKit.with("marks 2;guest a wears 0;guest b wears 0;guest c wears 0;blind a to b;blind a to c;rule b=0 or c=0;rule a=0 or b=c;");
+        due("rows", y.has(6), 4);
+        due("speaker", y.speaker(0), 1);
+        due("left", y.speaker(1), 2);
+        due("all of one", TestKit.with("marks 2;guest a wears 1;").speaker(1), 2);
+        due("one of one", TestKit.with("marks 2;guest a wears 1;rule a=1;").speaker(1), 1);
+    }
+
     /** "The SLOWEST .. (20 at most; not one in which he does not KNOW behind 20)"; "ODDS for n ROUNDS". */
     private static void twentyAnew() {
         ForeheadMarks x = TestKit.with(Texts.chain(3));
@@ -608,6 +642,24 @@ public final class TermsTest {
         due("fits", x.fits(NONE), 1);
         due("fits", x.fits(0), 0);
         sixteenRows(x);
+    }
+
+    /** "of like ones the first, ROUND by ROUND, GUEST by GUEST". */
+    private static void likeTellings() {
+        // b knows at once in two of four, a, who is blind, behind a ROUND in the two others
+        ForeheadMarks x = TestKit.with("marks 3;guest a wears 0;guest b wears 0;blind a to b;rule a=0 and b<2 or a=1 and b=1 or a=2 and b=0;");
+        int[][] odds = {{0, 2}, {2, 2}};
+        for (int g = 0; g < 2; g++) {
+            for (int n = 0; n < 2; n++) {
+                due("odds", x.odds(g, n), odds[g][n]);
+            }
+        }
+        dueTelling(x, 0, 1, 2);
+        // a ROUND sooner for the second, as many for both in the next one
+        ForeheadMarks y = TestKit.with("marks 2;guest a wears 1;guest b wears 1;rule sum>0;");
+        dueTelling(y, 0, 0, 2);
+        // one ROW is left: nothing tells it
+        dueTelling(TestKit.with("marks 2;guest a wears 1;rule a=1;"), 0, 0, 1);
     }
 
     private static void dueTelling(ForeheadMarks x, int rounds, int guest, int left) {
@@ -667,6 +719,35 @@ public final class TermsTest {
         }
     }
 
+    /** "AN IMAGE: ROUND (two bytes, the higher first); the MARK of each GUEST; .. eight by eight, a byte; last a byte". */
+    private static void images() {
+        for (int round : new int[] {0, 1, 255, 256, 257, 511, 512, 998, 999}) {
+            ForeheadMarks x = Probe.atRound("marks 4;guest a wears 2;", new int[] {0, 2, 3}, round);
+            byte[] want = Probe.sealed(round / 256, round % 256, 2, 0b1101);
+            due("image", x.image(), want.length);
+            for (int k = 0; k < want.length; k++) {
+                due("octet " + k, x.octet(k), want[k] & 255);
+            }
+            due("behind it", x.octet(want.length), NONE);
+        }
+        due("ahead of a parlour", new ForeheadMarks().image(), 3);
+        for (int marks = 2; marks <= 4; marks++) {
+            String text = "marks " + marks + ";";
+            int rows = 1;
+            for (int guests = 0; guests <= 5; guests++) {
+                ForeheadMarks x = TestKit.with(text);
+                int size = 2 + guests + (rows + 7) / 8 + 1;
+                due("rows", x.has(6), rows);
+                due("image", x.image(), size);
+                due("the last bits", x.octet(size - 2), rows % 8 == 0 ? 255 : (1 << rows % 8) - 1);
+                due("on", Probe.onWith(x, Probe.imageOf(x)), true);
+                due("rows", x.has(5), rows);
+                text += "guest " + (char) ('a' + guests) + " wears " + (marks - 1) + ";";
+                rows *= marks;
+            }
+        }
+    }
+
     /** One after the other, as many as an object takes: nothing of an earlier one is in the way. */
     private static void manyQuestions() {
         ForeheadMarks x = TestKit.with("marks 2;guest a wears 1;");
@@ -705,10 +786,14 @@ public final class TermsTest {
         twentyAhead();
         nineDeep();
         allEightHints();
+        secretOfMore();
+        likeSpeakers();
         twentyAnew();
         fifteenHeard();
+        likeTellings();
         questions();
         manyQuestions();
+        images();
         TestKit.finish();
     }
 }
