@@ -253,6 +253,45 @@ public final class RefusedTest {
         }
     }
 
+    /** What stood on the tape behind its end does not count. */
+    private static void cutTapes() {
+        for (int n = 0; n <= 60; n++) {
+            ForeheadMarks x = TestKit.with(THREE);
+            for (int k = 0; k < 3; k++) {
+                x.feed(0, 0, 0, 0, 0);
+            }
+            TestKit.due("end", x.end(n), true);
+            TestKit.due("hear " + n + " bytes", x.hear(), n % 3 == 0 && n >= 3 && n <= 48 ? n / 3 : NONE);
+        }
+        String text = "marks 4;guest abcdef wears 3;guest b wears 2;blind b to abcdef;rule abcdef=0003;fact not b<1111;slip 100;";
+        for (int n = 0; n <= text.length(); n++) {
+            SecondReader want = SecondReader.ofParlour(text.substring(0, n));
+            ForeheadMarks x = new ForeheadMarks();
+            TestKit.put(x, text);
+            TestKit.due("end", x.end(n), true);
+            TestKit.due("parlour cut at " + n, x.parlour(), want.fault == 0 ? want.statements : NONE);
+            TestKit.due("fault cut at " + n, x.fault(0), want.fault);
+            TestKit.due("place cut at " + n, x.fault(1), want.place);
+        }
+        for (int n = 0; n <= 8; n++) {
+            ForeheadMarks x = TestKit.with(THREE);
+            byte[] image = Probe.imageOf(x);
+            TestKit.put(x, java.util.Arrays.copyOf(image, 20));
+            TestKit.due("end", x.end(n), true);
+            TestKit.due("on cut at " + n, x.on(), n == image.length);
+        }
+    }
+
+    /** No image is one of a parlour that there is not, whatever its ROUND. */
+    private static void imagesOfNone() {
+        for (int round = 0; round <= 1000; round++) {
+            ForeheadMarks x = new ForeheadMarks();
+            TestKit.due("on() without a parlour at " + round, Probe.onWith(x, Probe.sealed(round / 256, round % 256)), false);
+            TestKit.due("refused", x.status(5), 1);
+            TestKit.due("all stays", x.has(4), 0);
+        }
+    }
+
     /** The bits of ROWS: any of ALL ROWS with THE TRUE ROW, none that a RULE forbids, none that there is not. */
     private static void imageRows() {
         for (int bits = 0; bits < 256; bits++) {
@@ -346,7 +385,9 @@ public final class RefusedTest {
         rounds();
         undoneAndSeed();
         images();
+        imagesOfNone();
         imageRows();
+        cutTapes();
         questions();
         goneTapes();
         askedInVain();

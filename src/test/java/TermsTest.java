@@ -149,6 +149,9 @@ public final class TermsTest {
         Texts.good(6, "marks 4;guest a wears 0;guest b wears 1;guest c wears 2;guest d wears 3;"
             + "rule sum=6 and top=3 and low=0 and kinds=4;");
         // no GUEST wears a MARK that there is not
+        for (int n = 4; n <= 64; n++) {
+            Texts.good(7, "marks 4;" + FIVE + "rule count " + n + "=0 and count (0-" + n + ")=0;");
+        }
         Texts.good(3, "marks 2;guest a wears 0;rule count 2=0 and count 5=0 and count 9999=0 and count (0-1)=0;");
     }
 
@@ -203,6 +206,26 @@ public final class TermsTest {
         // names that begin alike, or are one letter longer, are unlike
         Texts.good(6, "marks 2;guest a wears 0;guest aa wears 1;guest aaaaaa wears 1;guest aaaaa wears 0;"
             + "rule aa=1 and a=0 and aaaaaa=1 and aaaaa=0;");
+    }
+
+    /** Letters are a to z: any other byte ends a NAME, and none can stand behind it. */
+    private static void lettersAlone() {
+        for (int c = 0; c < 256; c++) {
+            boolean letter = c >= 'a' && c <= 'z';
+            boolean blank = c == 10 || c == 32;
+            String sign = "" + (char) c;
+            if (letter) {
+                Texts.good(2, "marks 2;guest a" + sign + " wears 1;");
+                Texts.bad(1, "marks 2|" + sign + ";");
+            } else {
+                Texts.bad(1, "marks 2;guest a" + (blank ? sign + "|b" : "|" + sign + "b") + " wears 1;");
+                Texts.bad(1, "marks 2;guest " + (blank ? sign + "|;" : "|" + sign + ";"));
+                Texts.bad(1, "marks 2;|sl" + sign + "ip 1;");
+            }
+            if (!letter && !blank && (c < '0' || c > '9') && c != ';') {
+                Texts.bad(1, "marks 2|" + sign + "0;");
+            }
+        }
     }
 
     /** "told ahead of where they are asked". */
@@ -712,6 +735,10 @@ public final class TermsTest {
         due("could 4", TestKit.ask(x, "often could 4=1"), 0);
         due("could below 0", TestKit.ask(x, "often could (0-1)=1"), 0);
         due("rows", TestKit.ask(x, "total rows"), 20);
+        for (int n = 5; n <= 64; n++) {
+            due("sees nobody", TestKit.ask(x, "often sees " + n + "=0 and sees (0-" + n + ")=0"), 5);
+            due("could not wear it", TestKit.ask(x, "often could " + n + "=0 and could (0-" + n + ")=0"), 5);
+        }
         ForeheadMarks y = TestKit.with("marks 4;");
         String[] texts = {"first all", "last all", "often all", "total 7", "most 7", "least 0-7"};
         for (int k = 0; k < texts.length; k++) {
@@ -773,6 +800,7 @@ public final class TermsTest {
         quotients();
         heldSums();
         namesOfSix();
+        lettersAlone();
         toldAhead();
         blanks();
         sixOpen();
