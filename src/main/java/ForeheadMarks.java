@@ -180,9 +180,13 @@ public final class ForeheadMarks {
     // ---- the parlour
 
     public int parlour() {
-        boolean good = spare.readFrom(tape, takeTape(), sheet);
+        spare.open(tape, takeTape());
+        for (int n = 0; n <= MAX_STATEMENTS && reader.isGoingOn(); n++) {
+            spare.readStatement();
+        }
+        spare.close(sheet);
         noteFault();
-        if (!good) {
+        if (latestFault != 0) {
             return refuse(REFUSED_TEXT);
         }
         Parlour old = current;
@@ -824,6 +828,10 @@ public final class ForeheadMarks {
             fail(FAULT_TEXT, from);
         }
 
+        void failAtEnd(int code) {
+            fail(code, length);
+        }
+
         void advance() {
             if (fault != 0) {
                 return;
@@ -845,6 +853,11 @@ public final class ForeheadMarks {
 
         boolean isEnd() {
             return kind == END;
+        }
+
+        /** Whether there is more of the text to be read, and no FAULT yet. */
+        boolean isGoingOn() {
+            return kind != END && fault == 0;
         }
 
         boolean isWord(int number) {
@@ -964,15 +977,19 @@ public final class ForeheadMarks {
             return word;
         }
 
-        /** To be called ahead of each TEST or SUM. */
-        void begin(Code into, Parlour parlour, boolean isQuestion) {
+        void readTest(Code into, Parlour parlour) {
+            begin(into, parlour, false);
+            test();
+        }
+
+        private void begin(Code into, Parlour parlour, boolean isQuestion) {
             code = into;
             names = parlour;
             asking = isQuestion;
             open = 0;
         }
 
-        void test() {
+        private void test() {
             both();
             for (int n = 0; n < MAX_TAPE && reader.isWord(W_OR); n++) {
                 reader.advance();
@@ -1292,22 +1309,22 @@ public final class ForeheadMarks {
             this.grammar = grammar;
         }
 
-        boolean readFrom(Cells text, int length, Sheet sheet) {
+        void open(Cells text, int length) {
             forget();
             reader.open(text, length);
-            for (int n = 0; n <= MAX_STATEMENTS && !reader.isEnd() && reader.fault == 0; n++) {
-                readStatement();
-            }
+        }
+
+        /** To be called when all STATEMENTS are read. */
+        void close(Sheet sheet) {
             if (statements == 0) {
-                reader.fail(FAULT_TEXT, length);
+                reader.failAtEnd(FAULT_TEXT);
             }
             if (reader.fault == 0) {
                 sheet.fillFromRow(worn, marks, guests);
                 if (!rulesHold(sheet)) {
-                    reader.fail(FAULT_RULE, length);
+                    reader.failAtEnd(FAULT_RULE);
                 }
             }
-            return reader.fault == 0;
         }
 
         private void forget() {
@@ -1323,7 +1340,7 @@ public final class ForeheadMarks {
             blind.wipe();
         }
 
-        private void readStatement() {
+        void readStatement() {
             int word = statementWord();
             reader.advance();
             switch (word) {
@@ -1341,8 +1358,7 @@ public final class ForeheadMarks {
                     break;
                 default:
                     int start = code.size;
-                    grammar.begin(code, this, false);
-                    grammar.test();
+                    grammar.readTest(code, this);
                     noteTest(word, start);
                     break;
             }

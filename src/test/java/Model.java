@@ -1,13 +1,16 @@
 import java.util.ArrayDeque;
 import java.util.ArrayList;
+import java.util.Arrays;
 import java.util.Deque;
+import java.util.HashMap;
 import java.util.List;
+import java.util.Map;
 import java.util.TreeSet;
 import java.util.function.ToLongFunction;
 
 /**
  * The document's terms reckoned a second time, word by word and slowly: each question goes over sets of rows, nothing is
- * kept from one call to the next but the state itself.
+ * kept from one call to the next but the state itself and who KNOWS, ANEW, in each row behind each number of rounds.
  */
 final class Model {
     int marks;
@@ -25,6 +28,7 @@ final class Model {
     List<int[]> heard = new ArrayList<>();
     final int[] refused = new int[6];
     private final Deque<Object[]> past = new ArrayDeque<>();
+    private final Map<Integer, int[]> anew = new HashMap<>();
 
     int rowCount() {
         int n = 1;
@@ -254,7 +258,23 @@ final class Model {
     }
 
     boolean knowsAnew(int guest, int row, int n) {
-        return knows(guest, row, afterRounds(row, all, n));
+        return (anew.computeIfAbsent(row, this::knowersAnew)[n] >> guest & 1) != 0;
+    }
+
+    /** Who KNOWS in a row behind each number of rounds. */
+    private int[] knowersAnew(int row) {
+        int[] bits = new int[21];
+        TreeSet<Integer> now = all;
+        for (int n = 0; n <= 20; n++) {
+            TreeSet<Integer> then = afterRound(row, now, -1);
+            bits[n] = knowers(row, now);
+            if (then.equals(now)) {
+                Arrays.fill(bits, n, 21, bits[n]);
+                break;
+            }
+            now = then;
+        }
+        return bits;
     }
 
     int firstAnew(int guest, int row) {
